@@ -442,7 +442,9 @@ public final class YearAgo {
         for (int day = 0; day < now.days; day++) {
             int top = Math.min(TOP, now.things.price[cell(thing, day)] + now.cap);
             for (int n = 0; n <= top; n++) {
-                if (n == top || askedTurns(thing, day, n)) {
+                // What brings more is sold that DAY, and brings still more by one
+                // more, as long as as much is ASKED.
+                if (n == top || wantedFor(seller, day, n + 1) < wantedFor(seller, day, n)) {
                     int brings = bringAt(seller, day, n);
                     if (brings > most) {
                         most = brings;
@@ -839,22 +841,13 @@ public final class YearAgo {
         return found;
     }
 
-    /** BEST of the SELLER loaded, if his THING cost n on a DAY. */
-    private int bringAt(int seller, int day, int n) {
-        int wanted = now.buyers.wanted(now.sellers.thing[seller], day, n);
-        return sellerAlone.bringAt(day, n, wanted);
+    private int wantedFor(int seller, int day, int n) {
+        return now.buyers.wanted(now.sellers.thing[seller], day, n);
     }
 
-    /**
-     * Whether ASKED by n is another than by one less or by one more. As long as
-     * it is the same, BEST bends upwards as n rises: the most of such a stretch,
-     * and the least n that brings it, stand at one of its ends.
-     */
-    private boolean askedTurns(int thing, int day, int n) {
-        int wanted = now.buyers.wanted(thing, day, n);
-        return n == 0
-            || now.buyers.wanted(thing, day, n - 1) != wanted
-            || now.buyers.wanted(thing, day, n + 1) != wanted;
+    /** BEST of the SELLER loaded, if his THING cost n on a DAY. */
+    private int bringAt(int seller, int day, int n) {
+        return sellerAlone.bringAt(day, n, wantedFor(seller, day, n));
     }
 
     private int passingGain(int thing, int way, int bought, int sale) {
@@ -1197,10 +1190,7 @@ public final class YearAgo {
         int value;
 
         void begin() {
-            kind = END;
-            start = 0;
             behind = 0;
-            value = 0;
         }
 
         void next(Tape tape) {
@@ -1486,7 +1476,7 @@ public final class YearAgo {
         long x;
 
         void run(Market market, int seed) {
-            empty();
+            forget();
             x = seed;
             for (int day = 0; day < market.days; day++) {
                 for (int seller = 0; seller < market.sellers.size; seller++) {
@@ -1501,21 +1491,16 @@ public final class YearAgo {
             }
         }
 
-        private void empty() {
-            Arrays.fill(offered, 0);
-            Arrays.fill(asked, 0);
-            Arrays.fill(sold, 0);
+        /** Only what is added up: all else is told anew on each DAY. */
+        private void forget() {
             Arrays.fill(spoiled, 0);
             Arrays.fill(gets, 0);
-            Arrays.fill(stock, 0);
-            Arrays.fill(left, 0);
             Arrays.fill(has, 0);
             Arrays.fill(earned, 0);
             Arrays.fill(soldBy, 0);
             Arrays.fill(spoiledOf, 0);
             Arrays.fill(spent, 0);
             Arrays.fill(pieces, 0);
-            comers = 0;
             lotCount = 0;
         }
 

@@ -84,6 +84,13 @@ public final class AloneTest {
         Check.due("least(0, 1, 0)", x.least(0, 1, 0), -2);
         Check.due("least(0, 5, 1)", x.least(0, 5, 1), -2);
         Check.due("least(1, 1, 1)", x.least(1, 1, 1), -2);
+        YearAgo top = Check.market("market days 4;thing price 5 keeps 0;seller 0 has 1 asks 0;"
+            + "buyer 0 wants 1 pays 99 from 0 to 0 stores 0;");
+        Check.due("by 99 alone", top.least(0, 0, 94), 99);
+        Check.due("by none", top.least(0, 0, 95), -1);
+        YearAgo down = Check.market("market days 4;thing price 50 keeps 0;seller 0 has 9 asks 0;"
+            + "buyer 0 wants 1 pays 99 from 0 to 0 stores 0;buyer 0 wants 9 pays 7 from 0 to 0 stores 0;");
+        Check.due("by less it is more", down.least(0, 0, 13), 7);
         YearAgo capped = Check.market(YearTest.FAIR + "cap 0;");
         Check.due("the cap aside", capped.least(0, 1, 20), 15);
     }

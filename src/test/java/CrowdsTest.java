@@ -47,6 +47,11 @@ public final class CrowdsTest {
         crowd(x, new long[] {0, 1, 1, 0, 2, 9, 0, 1, 1}, 1, 5, 16, 20);
         crowd(x, new long[] {0, 1, 1, 0, 1, 2}, 1, 0, -1, -1);
         crowd(x, new long[] {0, 1, -1}, 1, 0, -1, -1);
+        YearAgo y = Check.market("market days 4;thing price 5 keeps 0;buyer 0 wants 1 pays 98 from 1 to 1 stores 0;"
+            + "buyer 0 wants 1 pays 0 from 2 to 2 stores 0;");
+        crowd(y, new long[] {0, 1, 0}, 1, 1, 99, 99);
+        crowd(y, new long[] {0, 2, 1}, 2, 1, 0, 0);
+        crowd(y, new long[] {0, 1, 1}, 1, 99, 0, 98);
     }
 
     private static void crowd(YearAgo x, long[] row, int day, int many, int least, int greatest) {

@@ -204,5 +204,13 @@ public final class PricesTest {
         Check.tell(x, "market days 8;");
         x.restore(2);
         Check.due("days", x.count(0), 9);
+        Check.tell(x, YearTest.FAIR);
+        x.image(1);
+        x.hold(0, 99);
+        Check.due("nothing by 99", x.seller(0, 0), 0);
+        x.restore(1);
+        Check.due("the year is another at once", x.seller(0, 0), 90);
+        Check.tell(x, YearTest.FAIR + "was 0 on 0 11;");
+        Check.due("and by a market", x.seller(0, 0), 92);
     }
 }

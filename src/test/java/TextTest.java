@@ -102,6 +102,10 @@ public final class TextTest {
         good(HEAD + "thing price 99 keeps 0;was 0 on 4 99;old 0 on 0 0;seller 0 has 99 asks 99;grows 0 on 4 99;"
             + "buyer 0 wants 9 pays 99 from 4 to 4 stores 30;cap 0;", 8);
         bad("marketdays 5;", 1, 0);
+        bad("marketz days 5;", 1, 0);
+        bad("zmarket days 5;", 1, 0);
+        bad("market days 5;cap 3z;", 1, 19);
+        bad("market days 5;cap 3{;", 1, 19);
         bad("market days 5;caps 3;", 1, 14);
         bad("market days 5;Cap 3;", 1, 14);
         bad("market days 5;\tcap 3;", 1, 14);

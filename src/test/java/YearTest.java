@@ -119,6 +119,13 @@ public final class YearTest {
             Check.due("rich(" + what + ")", x.rich(what), due[what]);
         }
         Check.due("rich(-1)", x.rich(-1), -2);
+        Check.tell(x, "market days 4;thing price 5 keeps 0;thing price 5 keeps 3;was 1 on 2 4;"
+            + "seller 0 has 1 asks 0;seller 1 has 5 asks 0;seller 1 has 2 asks 0;"
+            + "buyer 0 wants 1 pays 9 from 0 to 0 stores 0;buyer 1 wants 6 pays 4 from 2 to 2 stores 0;");
+        int[] then = {2, 24, 2, 0};
+        for (int what = 0; what < 4; what++) {
+            Check.due("of another market, rich(" + what + ")", x.rich(what), then[what]);
+        }
         YearAgo still = Check.market("market days 7;");
         Check.due("nothing is sold", still.rich(0), -1);
         Check.due("how much", still.rich(1), 0);
@@ -219,8 +226,11 @@ public final class YearTest {
         Check.due("asks(1)", x.asks(1), -2);
         Check.due("asks(-1)", x.asks(-1), -2);
         Check.due("the least of several", Check.market(FAIR).asks(0), 0);
-        YearAgo top = Check.market("market days 4;thing price 99 keeps 0;seller 0 has 1 asks 0;");
-        Check.due("he gets nothing by any", top.asks(0), 0);
+        YearAgo none = Check.market("market days 4;thing price 99 keeps 0;seller 0 has 1 asks 0;");
+        Check.due("he gets nothing by any", none.asks(0), 0);
+        YearAgo top = Check.market("market days 4;thing price 98 keeps 3;was 0 on 3 99;seller 0 has 1 asks 0;"
+            + "buyer 0 wants 1 pays 99 from 0 to 3 stores 0;");
+        Check.due("by 99", top.asks(0), 99);
     }
 
     private static void holding() {
@@ -250,6 +260,10 @@ public final class YearTest {
         for (int day = 0; day < 5; day++) {
             Check.due("clears(0, " + day + ")", x.clears(0, day), due[day]);
         }
+        YearAgo ends = Check.market("market days 4;thing price 99 keeps 9;seller 0 has 1 asks 0;"
+            + "buyer 0 wants 1 pays 0 from 0 to 0 stores 0;buyer 0 wants 9 pays 99 from 1 to 1 stores 0;");
+        Check.due("by 0 alone", ends.clears(0, 0), 0);
+        Check.due("by 99 too", ends.clears(0, 1), 99);
     }
 
     private static void poverty() {
