@@ -180,7 +180,7 @@ public final class RandomRunsTest {
     // ---- texts ----
 
     static String text(Random r, int size) {
-        int days = 4 + r.nextInt(size == 3 ? 17 : 5);
+        int days = r.nextInt(6) == 0 ? 20 : 4 + r.nextInt(size == 3 ? 17 : 5);
         int things = size == 0 ? 1 : 1 + r.nextInt(5);
         int sellers = size == 0 ? 1 : r.nextInt(6);
         int buyers = size == 0 ? 2 : r.nextInt(8);
