@@ -179,7 +179,44 @@ public final class RandomRunsTest {
 
     // ---- texts ----
 
+    /** All numbers near their bounds. */
+    private static String edgeText(Random r) {
+        int days = r.nextInt(3) == 0 ? 20 : 4 + r.nextInt(2);
+        int things = 1 + r.nextInt(r.nextBoolean() ? 2 : 5);
+        StringBuilder s = new StringBuilder("market days " + days + ";");
+        for (int t = 0; t < things; t++) {
+            s.append("thing price ").append(edge(r, 0, 99)).append(" keeps ").append(r.nextBoolean() ? edge(r, 0, 30) : edge(r, 0, days)).append(";");
+        }
+        for (int i = r.nextInt(6 * things); i > 0; i--) {
+            s.append(r.nextInt(3) == 0 ? "old " : "was ").append(edge(r, 0, things - 1)).append(" on ").append(edge(r, 0, days - 1)).append(' ').append(edge(r, 0, 99)).append(";");
+        }
+        int sellers = r.nextInt(6);
+        for (int i = 0; i < sellers; i++) {
+            s.append("seller ").append(edge(r, 0, things - 1)).append(" has ").append(edge(r, 0, r.nextInt(3) == 0 ? 99 : 9)).append(" asks ").append(edge(r, 0, 99)).append(";");
+            for (int k = r.nextInt(3); k > 0; k--) {
+                s.append("grows ").append(i).append(" on ").append(edge(r, 0, days - 1)).append(' ').append(edge(r, 0, r.nextBoolean() ? 99 : 9)).append(";");
+            }
+        }
+        for (int i = r.nextInt(8); i > 0; i--) {
+            int from = edge(r, 0, days - 1);
+            s.append("buyer ").append(edge(r, 0, things - 1)).append(" wants ").append(edge(r, 1, 9)).append(" pays ").append(r.nextBoolean() ? 99 : edge(r, 0, 99));
+            s.append(" from ").append(from).append(" to ").append(edge(r, from, days - 1)).append(" stores ").append(edge(r, 0, r.nextBoolean() ? days : 30)).append(";");
+        }
+        if (r.nextBoolean()) {
+            s.append("cap ").append(edge(r, 0, 99)).append(";");
+        }
+        return s.length() > 2000 ? s.substring(0, s.lastIndexOf(";", 1999) + 1) : s.toString();
+    }
+
+    private static int edge(Random r, int low, int high) {
+        int in = Math.min(r.nextInt(3) == 0 ? 1 : 0, high - low);
+        return r.nextInt(8) == 0 ? low + r.nextInt(high - low + 1) : r.nextBoolean() ? low + in : high - in;
+    }
+
     static String text(Random r, int size) {
+        if (r.nextInt(4) == 0) {
+            return edgeText(r);
+        }
         int days = r.nextInt(6) == 0 ? 20 : 4 + r.nextInt(size == 3 ? 17 : 5);
         int things = size == 0 ? 1 : 1 + r.nextInt(5);
         int sellers = size == 0 ? 1 : r.nextInt(6);
