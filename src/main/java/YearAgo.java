@@ -123,7 +123,7 @@ public final class YearAgo {
             case 3:
                 return run.has[seller];
             case 4:
-                return run.earned[seller] == 0 ? NONE : richestDay(1 << seller);
+                return run.earned[seller] == 0 ? NONE : run.richestDay(1 << seller);
             default:
                 return NO_SUCH;
         }
@@ -158,16 +158,17 @@ public final class YearAgo {
         if (!isMarket()) {
             return NO_SUCH;
         }
+        Year run = thisYear();
         int all = (1 << now.sellers.size) - 1;
         switch (what) {
             case 0:
-                return daysWithoutSale() == now.days ? NONE : richestDay(all);
+                return run.daysWithoutSale(now) == now.days ? NONE : run.richestDay(all);
             case 1:
-                return takings(all, richestDay(all));
+                return run.takings(all, run.richestDay(all));
             case 2:
-                return daysWithoutSale();
+                return run.daysWithoutSale(now);
             case 3:
-                return thisYear().lotCount;
+                return run.lotCount;
             default:
                 return NO_SUCH;
         }
@@ -202,15 +203,16 @@ public final class YearAgo {
         if (!isMarket() || set < 0 || set >= 1 << now.sellers.size) {
             return NO_SUCH;
         }
+        Year run = thisYear();
         int inAll = 0;
         for (int day = 0; day < now.days; day++) {
-            inAll += takings(set, day);
+            inAll += run.takings(set, day);
         }
         switch (what) {
             case 0:
-                return inAll == 0 ? NONE : richestDay(set);
+                return inAll == 0 ? NONE : run.richestDay(set);
             case 1:
-                return takings(set, richestDay(set));
+                return run.takings(set, run.richestDay(set));
             case 2:
                 return inAll;
             default:
@@ -756,42 +758,6 @@ public final class YearAgo {
             yearKnown = true;
         }
         return year;
-    }
-
-    private int takings(int set, int day) {
-        Year run = thisYear();
-        int sum = 0;
-        for (int seller = 0; seller < now.sellers.size; seller++) {
-            if ((set >> seller & 1) == 1) {
-                sum += run.gets[cell(seller, day)];
-            }
-        }
-        return sum;
-    }
-
-    private int richestDay(int set) {
-        int found = 0;
-        for (int day = 1; day < now.days; day++) {
-            if (takings(set, day) > takings(set, found)) {
-                found = day;
-            }
-        }
-        return found;
-    }
-
-    private int daysWithoutSale() {
-        Year run = thisYear();
-        int found = 0;
-        for (int day = 0; day < now.days; day++) {
-            int pieces = 0;
-            for (int thing = 0; thing < now.things.size; thing++) {
-                pieces += run.sold[cell(thing, day)];
-            }
-            if (pieces == 0) {
-                found++;
-            }
-        }
-        return found;
     }
 
     /** In how many orders of those who come a BUYER who comes gets all that he wants. */
@@ -1502,6 +1468,41 @@ public final class YearAgo {
             Arrays.fill(spent, 0);
             Arrays.fill(pieces, 0);
             lotCount = 0;
+        }
+
+        /** What a set of SELLERS (bits) gets on a DAY; SELLERS and DAYS that are not get 0. */
+        int takings(int set, int day) {
+            int sum = 0;
+            for (int seller = 0; seller < MOST_SELLERS; seller++) {
+                if ((set >> seller & 1) == 1) {
+                    sum += gets[cell(seller, day)];
+                }
+            }
+            return sum;
+        }
+
+        int richestDay(int set) {
+            int found = 0;
+            for (int day = 1; day < MOST_DAYS; day++) {
+                if (takings(set, day) > takings(set, found)) {
+                    found = day;
+                }
+            }
+            return found;
+        }
+
+        int daysWithoutSale(Market market) {
+            int found = 0;
+            for (int day = 0; day < market.days; day++) {
+                int bought = 0;
+                for (int thing = 0; thing < market.things.size; thing++) {
+                    bought += sold[cell(thing, day)];
+                }
+                if (bought == 0) {
+                    found++;
+                }
+            }
+            return found;
         }
 
         private void begin(Market market, int seller, int day) {
